@@ -755,7 +755,9 @@ public final class PairSymbols {
         }
 
         int find(int c, int d) {
-            return symbolAt[Math.floorMod(c, number) * number + Math.floorMod(d, number)];
+            int e = (c % number + number) % number;
+            int f = (d % number + number) % number;
+            return symbolAt[e * number + f];
         }
 
         /** The pairs come in order, so the first of each class represents it. */

@@ -18,7 +18,7 @@ public final class LanguageTest {
     private static final String[] FORBIDDEN = {"throw", "throws", "try", "catch", "finally", "synchronized", "assert",
         "package", "protected", "volatile", "transient", "native", "var"};
     private static final Set<String> LIBRARY = Set.of("Arrays.fill", "Arrays.copyOf", "Arrays.copyOfRange",
-        "System.arraycopy", "Math.floorMod");
+        "System.arraycopy");
     private static final Due DUE = new Due("LanguageTest");
 
     public static void main(String[] args) throws IOException {

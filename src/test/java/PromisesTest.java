@@ -119,6 +119,7 @@ public final class PromisesTest {
         for (int s = 0; s < 12; s++) {
             DUE.is("symbol(" + s + ", 4)", x.symbol(s, 4), shifted[s]);
         }
+        DUE.is("symbol(0, 6)", x.symbol(0, 6), 0);
         DUE.is("symbol(4, 6)", x.symbol(4, 6), 2);
         DUE.is("symbol(5, 6)", x.symbol(5, 6), NONE);
         counted("NONE is no error", x, 0, 0, 0);
@@ -276,6 +277,8 @@ public final class PromisesTest {
     }
 
     private static void polynomial() {
+        coefficients(new PairSymbols(), 1, 0, -1, 3, -3, 1);
+        coefficients(new PairSymbols(), 1, 1, 1, -2, 1);
         coefficients(new PairSymbols(), 2, 0, -12, -8, 1, 1);
         coefficients(new PairSymbols(), 2, 1, 4, 4, 1);
         coefficients(at(23), 2, 1, 1, -2, -1, 2, 1);
