@@ -2,13 +2,8 @@
 public final class PromisesTest {
     private static final int BAD = -2, NO = -3, FULL = -4, NONE = -1;
     private static final int LEAST = Integer.MIN_VALUE, MOST = Integer.MAX_VALUE;
-    private static final long RANGE = 1000000000000L;
+    private static final long RANGE = Starts.RANGE;
     private static final Due DUE = new Due("PromisesTest");
-
-    private static final int[] SYMBOLS = {1, 3, 4, 6, 6, 12, 8, 12, 12, 18, 12, 24, 14, 24, 24, 24, 18, 36, 20, 36,
-        32, 36, 24, 48, 30};
-    private static final int[] CUSPS = {1, 2, 2, 3, 2, 4, 2, 4, 4, 4, 2, 6, 2, 4, 4, 6, 2, 8, 2, 6, 4, 4, 2, 8, 6};
-    private static final int[] GENUS = {0, 0, 0, 0, 0, 0, 0, 0, 0, 0, 1, 0, 0, 1, 1, 0, 1, 0, 1, 1, 1, 2, 2, 1, 0};
 
     public static void main(String[] args) {
         newObject();
@@ -41,16 +36,11 @@ public final class PromisesTest {
     }
 
     private static PairSymbols at(int level) {
-        PairSymbols x = new PairSymbols();
-        x.level(level);
-        return x;
+        return Starts.at(level);
     }
 
     private static PairSymbols typed(PairSymbols x, String text) {
-        x.clear();
-        for (int k = 0; k < text.length(); k++) {
-            x.type(text.charAt(k));
-        }
+        Starts.type(x, text);
         return x;
     }
 
@@ -109,7 +99,7 @@ public final class PromisesTest {
 
     private static void symbols() {
         for (int n = 1; n <= 25; n++) {
-            DUE.is("symbols() at " + n, at(n).symbols(), SYMBOLS[n - 1]);
+            DUE.is("symbols() at " + n, at(n).symbols(), Ranges.symbols(n));
         }
     }
 
@@ -182,10 +172,9 @@ public final class PromisesTest {
     private static void space() {
         for (int n = 1; n <= 25; n++) {
             PairSymbols x = at(n);
-            int dimension = 2 * GENUS[n - 1] + CUSPS[n - 1] - 1;
-            DUE.is("space(0) at " + n, x.space(0), dimension);
-            DUE.is("space(1) at " + n, x.space(1), CUSPS[n - 1]);
-            DUE.is("space(2) at " + n, x.space(2), GENUS[n - 1]);
+            DUE.is("space(0) at " + n, x.space(0), Ranges.dimension(n));
+            DUE.is("space(1) at " + n, x.space(1), Ranges.cusps(n));
+            DUE.is("space(2) at " + n, x.space(2), Ranges.genus(n));
         }
         PairSymbols x = new PairSymbols();
         DUE.is("space(3)", x.space(3), 2);
@@ -337,9 +326,9 @@ public final class PromisesTest {
         }
         counted("formula", x, wrong.length, 0, 0);
         for (int n = 1; n <= 25; n++) {
-            DUE.is("index of " + n, x.formula(n, 0), SYMBOLS[n - 1]);
-            DUE.is("ends of " + n, x.formula(n, 3), CUSPS[n - 1]);
-            DUE.is("forms of " + n, x.formula(n, 4), GENUS[n - 1]);
+            DUE.is("index of " + n, x.formula(n, 0), Ranges.symbols(n));
+            DUE.is("ends of " + n, x.formula(n, 3), Ranges.cusps(n));
+            DUE.is("forms of " + n, x.formula(n, 4), Ranges.genus(n));
         }
     }
 
@@ -420,20 +409,9 @@ public final class PromisesTest {
         DUE.is("sum(0, 1) at 1", at(1).sum(0, 1), Long.MIN_VALUE);
     }
 
-    /** At level 3 there is one coordinate, and operator 7 multiplies it by 8. */
-    private static PairSymbols grown(long goal) {
-        PairSymbols x = at(3);
-        String digits = Long.toString(Math.abs(goal), 8);
-        for (int k = 0; k < digits.length(); k++) {
-            x.applies(7);
-            x.adds(0, Long.signum(goal) * (digits.charAt(k) - '0'));
-        }
-        return x;
-    }
-
     private static void rangeOfTheSum() {
         for (int sign = -1; sign <= 1; sign += 2) {
-            PairSymbols x = grown(sign * RANGE);
+            PairSymbols x = Starts.grown(sign * RANGE);
             sums("at the edge of the range", x, sign * RANGE);
             counted("at the edge of the range", x, 0, 0, 0);
             DUE.is("adds one too many", x.adds(0, sign), NO);
@@ -451,10 +429,10 @@ public final class PromisesTest {
             DUE.is("reads up to the edge", x.reads(), sign > 0 ? 3 : -1000);
             x.back();
         }
-        PairSymbols x = grown(RANGE / 8);
+        PairSymbols x = Starts.grown(RANGE / 8);
         DUE.is("applies(7) up to the edge", x.applies(7), 1);
         sums("applies(7) up to the edge", x, RANGE);
-        x = grown(RANGE / 8 + 1);
+        x = Starts.grown(RANGE / 8 + 1);
         DUE.is("applies(7) beyond the edge", x.applies(7), NO);
         sums("applies(7) beyond the edge", x, RANGE / 8 + 1);
         DUE.is("a command beyond the edge", typed(x, "z; + 1 0; t 7; n 3;").reads(), 4);
