@@ -14,6 +14,7 @@ public final class KeptTest {
         }
         manyMoreThanSix();
         backAndForth();
+        changesAfterBack();
         whatBackRestores();
         oneChangeForAllCommands();
         DUE.end();
@@ -191,6 +192,31 @@ public final class KeptTest {
         }
         DUE.is("back() with none", x.back(), -3);
         DUE.is("sum(0, 0)", x.sum(0, 0), 4);
+    }
+
+    /** Each change goes on from what back() restored, not from what was there before back(). */
+    private static void changesAfterBack() {
+        for (int kind = 0; kind < 5; kind++) {
+            PairSymbols x = Starts.at(14);
+            x.adds(0, 7);
+            x.level(24);
+            x.adds(0, 50);
+            x.back();
+            x.back();
+            DUE.is("told(4) after back()", x.told(4), 14);
+            if (kind == 0) {
+                DUE.is("level() answers the restored level", x.level(10), 14);
+                continue;
+            }
+            change(x, kind);
+            DUE.is("told(4) after a change of kind " + kind, x.told(4), 14);
+            PairSymbols y = Starts.at(14);
+            y.adds(0, 7);
+            change(y, kind);
+            for (int i = 0; i < 5; i++) {
+                DUE.is("sum(" + i + ", 0) after a change of kind " + kind, x.sum(i, 0), y.sum(i, 0));
+            }
+        }
     }
 
     /** "Restores the level and the sum": all nine coordinates of level 24, and neither the text nor the counts. */

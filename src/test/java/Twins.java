@@ -8,6 +8,8 @@ final class Twins {
     /** Which error is counted by the call: one of told(0) to told(2), or none. */
     static final int BAD = 0, NO = 1, FULL = 2, NOTHING = 3;
 
+    private static final int CHANGES = 6;
+
     private final Due due;
     private final PairSymbols called;
     private final PairSymbols spared;
@@ -23,23 +25,41 @@ final class Twins {
 
     /** The call must answer as said, count one error of that kind, and change nothing else. */
     static void refused(Due due, int start, int kind, long answer, String name, int... a) {
-        Twins twins = new Twins(due, start, name + Arrays.toString(a));
-        due.is(twins.where, Calls.call(twins.called, name, a), answer);
-        twins.more[kind]++;
-        twins.compareAll();
+        for (int next = 0; next < CHANGES; next++) {
+            Twins twins = new Twins(due, start, name + Arrays.toString(a));
+            due.is(twins.where, Calls.call(twins.called, name, a), answer);
+            twins.more[kind]++;
+            twins.compareAll(next);
+        }
     }
 
     /** The text must not be read: it answers as said, counts no error and changes nothing. */
     static void unread(Due due, int start, String text, long answer) {
-        Twins twins = new Twins(due, start, "reads() of '" + text + "'");
-        Starts.type(twins.called, text);
-        Starts.type(twins.spared, text);
-        due.is(twins.where, twins.called.reads(), answer);
-        twins.compareAll();
+        for (int next = 0; next < CHANGES; next++) {
+            Twins twins = new Twins(due, start, "reads() of '" + text + "'");
+            Starts.type(twins.called, text);
+            Starts.type(twins.spared, text);
+            due.is(twins.where, twins.called.reads(), answer);
+            twins.compareAll(next);
+        }
     }
 
-    private void compareAll() {
+    /** One of the changes, or none; what the refused call left behind could show in it. */
+    private static long change(PairSymbols x, int next) {
+        switch (next) {
+            case 0: return x.level(6);
+            case 1: return x.adds(0, -1);
+            case 2: return x.applies(1);
+            case 3: return x.walks(2, 5);
+            case 4: return x.reads();
+            default: return 0;
+        }
+    }
+
+    private void compareAll(int next) {
         compare("at once");
+        same("change " + next, change(called, next), change(spared, next));
+        compare("after change " + next);
         for (int k = 0; k <= 6; k++) {
             same("back " + k, called.back(), spared.back());
             compare("after back " + k);
